@@ -113,10 +113,12 @@ public final class ClockTest {
         x = Check.ring("d0110000;d0290004;e109;");
         x.later(19);
         due("level() of a slow clock", x.level(), 8);
-        // a first device that is slow and a second one that is fast make the difference negative
+        // a slow device before a fast one makes the difference negative: gaps 227 and 225, pass and turn 9
         x = Check.ring("d0110000;d0210008;d0390004;d0490004;d0590004;d0690004;d0790004;d0890004;e999;");
         x.later(13);
-        due("level()", x.level() >= 0 ? 1 : 0, 1);
+        due("level()", x.level(), 9 + (9 + 13) + 5 * (9 + 9));
+        due("delay of 1", x.clock(1, 3), 9);
+        due("delay of 2", x.clock(2, 3), 9 + 9 + 13);
     }
 
     private static void steer() {
@@ -178,7 +180,10 @@ public final class ClockTest {
         // the delay of 1 is 8: it is on time
         due("steer(5) after level()", x.steer(5), 0);
         x.later(9000);
-        due("device 0 runs ahead", x.steer(5) > 80 ? 1 : 0, 1);
+        due("time", x.count(1), 24 + 24 + 24 + 9000);
+        // the frame passes device 0 at 9075 with 90 more, and device 1 at 9083 with its 20 more taken off
+        due("offset of 1", x.clock(1, 2), ZERO - 20);
+        due("device 0 runs ahead", x.steer(5), 9075 + 90 + 8 - 9083);
     }
 
     private static void clock() {

@@ -574,10 +574,46 @@ public final class FrameTest {
         due("other address", x.expected(1), NONE);
         x.gram(1, 4, 1, 0, 1);
         due("same address", x.expected(1), 0);
+        for (int command = 1; command <= 3; command++) {
+            x.gram(1, command, 0, 4, 1);
+            x.send();
+            due("expected by position, command " + command, x.expected(1), 0);
+        }
         x.clear(0);
         due("cleared", x.expected(0), NONE);
         x.gram(0, 7, 0, 0, 1);
         due("set again", x.expected(0), 4);
+        likenesses();
+        forgottenCounters();
+    }
+
+    /** Datagrams that are unlike in two ways at once. */
+    private static void likenesses() {
+        PassingFrames x = new PassingFrames();
+        x.gram(0, 5, 2, 3, 4);
+        x.send();
+        int[][] others = {{4, 3, 3, 4}, {6, 1, 3, 4}, {5, 1, 4, 4}, {5, 3, 2, 4}, {5, 2, 2, 5}, {5, 2, 4, 3},
+            {5, 1, 3, 5}, {5, 3, 3, 3}, {4, 2, 4, 4}, {4, 2, 3, 5}, {6, 2, 3, 3}, {2, 5, 3, 4}, {5, 2, 4, 3}};
+        for (int[] o : others) {
+            x.gram(0, o[0], o[1], o[2], o[3]);
+            due("expected of " + o[0] + ", " + o[1] + ", " + o[2] + ", " + o[3], x.expected(0), NONE);
+        }
+        x.gram(0, 5, 2, 3, 4);
+        due("expected of the same", x.expected(0), 0);
+    }
+
+    private static void forgottenCounters() {
+        PassingFrames x = new PassingFrames();
+        int[] commands = {7, 9, 4, 6, 5, 1, 3, 2};
+        int[] counters = {4, 12, 1, 3, 1, 1, 3, 1};
+        for (int i = 0; i < commands.length; i++) {
+            x.gram(0, commands[i], commands[i] < 4 ? 1 : commands[i] < 7 ? 22 : 0, 5, 1);
+            due("send() of command " + commands[i], x.send(), counters[i]);
+        }
+        for (int i = 0; i < commands.length; i++) {
+            x.gram(0, commands[i], commands[i] < 4 ? 1 : commands[i] < 7 ? 22 : 0, 5, 1);
+            due("expected of command " + commands[i], x.expected(0), i < 2 ? NONE : counters[i]);
+        }
     }
 
     private static void expectedForgets() {

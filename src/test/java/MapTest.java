@@ -68,6 +68,8 @@ public final class MapTest {
         due("mapped(0, 0, 0)", x.mapped(0, 0, 0), 6);
         due("unmap(1, 0)", x.unmap(1, 0), 1);
         due("then its places are free", x.map(3, 0, 10, 4, 0), 0);
+        due("map(0, 1, 0, 1, 4) of device 0", x.map(0, 1, 0, 1, 4), 0);
+        due("its place", x.map(2, 1, 0, 2, 4), NO);
         x.cut(0, 1);
         x.cut(4, 1);
         due("also a device on no side has its places", x.map(1, 0, 10, 1, 0), NO);

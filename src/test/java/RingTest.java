@@ -19,6 +19,7 @@ public final class RingTest {
         lose();
         state();
         stateResets();
+        eightDevices();
         CHECK.finish();
     }
 
@@ -197,7 +198,7 @@ public final class RingTest {
         PassingFrames x = new PassingFrames();
         for (int d = 0; d < 4; d++) {
             Check.enter(x, d, 3);
-            x.own(d, 15, 9);
+            x.own(d, 9, 15);
             x.tell(d, 5);
             x.tell(d, 6);
             x.push(d, 3);
@@ -226,7 +227,7 @@ public final class RingTest {
         int[] box = {0, 0, 0, 0, 1, 1, NONE, NONE};
         for (int d = 0; d < 4; d++) {
             due("after lay: state", x.device(d, 4), 0);
-            due("after lay: byte", x.memory(d, 15), 0);
+            due("after lay: byte", x.memory(d, 9), 0);
             due("after lay: offset", x.clock(d, 2), 100000000);
             due("after lay: delay", x.clock(d, 3), 0);
             due("after lay: read map", x.mapped(d, 0, 0), NONE);
@@ -314,28 +315,36 @@ public final class RingTest {
         due("clock beyond 65535, high", x.memory(2, 3), 3);
         due("slow clock then, low", x.memory(0, 2), 62914 % 256);
         due("slow clock then, high", x.memory(0, 3), 62914 / 256);
-        negativeClock();
+        clockBytesWithOffset();
     }
 
-    private static void negativeClock() {
-        // the offset makes the system clock of device 1 that of device 0, which is slower by 1000 at first
+    private static void clockBytesWithOffset() {
         PassingFrames x = Check.ring("d0110000;d0210004;");
         x.later(9999);
+        // the frame passes device 0 at 10000 with 9600 and device 1 at 10003; the delay is 2, the offset -401
         x.level();
-        due("system clock", x.clock(1, 1), x.clock(0, 1));
-        due("its low byte", x.memory(1, 2), (x.clock(1, 1) - PassingFrames.ZERO) % 256);
-        x = Check.ring("d0110000;d0210008;");
-        for (int i = 0; i < 30; i++) {
-            x.later(9999);
-        }
-        x.level();
-        int time = x.count(1);
-        x.cut(1, 1);
-        x.level();
-        due("time", x.count(1) > time ? 1 : 0, 1);
-        int system = x.clock(1, 1) - PassingFrames.ZERO;
-        due("low byte of the other side", x.memory(1, 2), Math.floorMod(system, 256));
-        due("high byte of the other side", x.memory(1, 3), Math.floorMod(system, 65536) / 256);
+        due("time", x.count(1), 10008);
+        due("own clock of 1", x.clock(1, 0), 100010008);
+        due("system clock of 1", x.clock(1, 1), 100009607);
+        due("its low byte", x.memory(1, 2), 9607 % 256);
+        due("its high byte", x.memory(1, 3), 9607 / 256);
+    }
+
+    private static void eightDevices() {
+        PassingFrames x = Check.ring("d0110000;d0220000;d0330000;d0440000;d0550000;d0660000;d0770000;d0880000;e912;");
+        due("number of the eighth", x.device(7, 0), 8);
+        due("no ninth", x.device(8, 0), BAD);
+        due("count(12)", x.count(12), 36 + 9 + 8);
+        due("cut(8, 1)", x.cut(8, 1), 1);
+        due("cut(9, 1)", x.cut(9, 1), BAD);
+        sides(x, "11111111");
+        due("count(12) with the last wire cut", x.count(12), 72 + 8 + 14);
+        due("cut(7, 1)", x.cut(7, 1), 2);
+        sides(x, "11111110");
+        due("cut(8, 0)", x.cut(8, 0), 1);
+        sides(x, "11111112");
+        x.gram(0, 7, 0, 0, 1);
+        due("send()", x.send(), 8);
     }
 
     private static void own() {

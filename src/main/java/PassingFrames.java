@@ -866,6 +866,7 @@ public final class PassingFrames {
     /** A datagram as it is set, as the two frames carry it, and as it came home. */
     static final class Datagram {
         private static final int BY_POSITION = 0, BY_NUMBER = 1, BY_MAP = 3;
+        private static final int ONLY_READ = 0, ONLY_WRITE = 1;
         private static final int READ_ALL = 7, BOTH_ALL = 9;
 
         private int command;
@@ -902,13 +903,13 @@ public final class PassingFrames {
                 return;
             }
             int action = (command - 1) % 3;
-            boolean reads = action != 1;
-            boolean writes = action != 0;
+            boolean reads = action != ONLY_WRITE;
+            boolean writes = action != ONLY_READ;
             cargo.arrive();
-            if (reads && isRead(cargo, device)) {
+            if (reads && readInto(cargo, device)) {
                 cargo.counter += 1;
             }
-            if (writes && isWritten(cargo, device)) {
+            if (writes && writeFrom(cargo, device)) {
                 cargo.counter += reads ? 2 : 1;
             }
         }
@@ -940,7 +941,8 @@ public final class PassingFrames {
             return offset >= FIRST_FREE_BYTE && offset + length <= DEVICE_BYTES;
         }
 
-        private boolean isRead(Cargo cargo, Device device) {
+        /** Reads the device; false if no byte of it is meant. */
+        private boolean readInto(Cargo cargo, Device device) {
             if (!mayRead(device)) {
                 return false;
             }
@@ -955,7 +957,8 @@ public final class PassingFrames {
             return any;
         }
 
-        private boolean isWritten(Cargo cargo, Device device) {
+        /** Writes the device with the bytes as they came; false if no byte of it is meant. */
+        private boolean writeFrom(Cargo cargo, Device device) {
             if (!mayWrite(device)) {
                 return false;
             }

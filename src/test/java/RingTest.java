@@ -157,6 +157,25 @@ public final class RingTest {
         }
         fault(ends.toString(), NONE);
         fault(ends.substring(0, 199), 195);
+        fullTexts();
+    }
+
+    /** The text has 200 characters, of which the last 1 to 9 are the begin of an item. */
+    private static void fullTexts() {
+        String last = "d9910000;";
+        for (int left = 1; left <= 9; left++) {
+            StringBuilder text = new StringBuilder();
+            for (int i = 0; i < left % 5; i++) {
+                text.append("d1").append(i).append("10000;");
+            }
+            while (text.length() < 200 - left) {
+                text.append("e123;");
+            }
+            int begin = text.length();
+            text.append(last, 0, left);
+            due("length of a full text", text.length(), 200);
+            fault(text.toString(), left == 9 ? NONE : begin);
+        }
     }
 
     private static void lay() {

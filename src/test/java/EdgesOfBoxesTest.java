@@ -136,8 +136,8 @@ public final class EdgesOfBoxesTest {
     }
 
     private static void fetchGives() {
-        T.test("MAILBOXES", "the device gives the oldest message of its outbox, which is removed and becomes the last message,"
-                + " and the bit of the outbox becomes the master's", () -> {
+        T.test("MAILBOXES", "the device gives the oldest message of its outbox, which is removed and becomes the last"
+                + " message, and the bit of the outbox becomes the master's", () -> {
             for (int n = 1; n <= 4; n++) {
                 PassingFrames x = telling(n);
                 T.due("fetch() of " + n, x.fetch(0), 11);
@@ -204,8 +204,8 @@ public final class EdgesOfBoxesTest {
     }
 
     private static void pushAccepts() {
-        T.test("MAILBOXES", "and the inbox has fewer than 4 messages, the message is appended, the bit of the inbox becomes the"
-                + " master's, and the message is accepted.", () -> {
+        T.test("MAILBOXES", "and the inbox has fewer than 4 messages, the message is appended, the bit of the inbox"
+                + " becomes the master's, and the message is accepted.", () -> {
             for (int n = 0; n <= 3; n++) {
                 PassingFrames x = pushed(n);
                 T.due("push() behind " + n, x.push(0, 99), n + 1);
@@ -265,7 +265,8 @@ public final class EdgesOfBoxesTest {
     }
 
     private static void pending() {
-        T.test("MAILBOXES", "If the frame is lost, the message is pending until it comes home that it was accepted.", () -> {
+        T.test("MAILBOXES", "If the frame is lost, the message is pending until it comes home that it was"
+                + " accepted.", () -> {
             PassingFrames x = pushed(4);
             x.lose(2);
             T.due("lost push() to a full inbox", x.push(0, 99), LOST);
@@ -486,7 +487,8 @@ public final class EdgesOfBoxesTest {
             T.range("again", 0, 3, Edges::busy, (x, d) -> x.again(d));
             T.due("of the pending one", pendingBehind(0).again(0), 1);
         });
-        T.test("25", "The master pushes the pending message to the inbox of a device once more by a frame (PUSH above).", () -> {
+        T.test("25", "The master pushes the pending message to the inbox of a device once more by a frame (PUSH"
+                + " above).", () -> {
             PassingFrames x = pendingBehind(4);
             int time = x.count(1);
             for (int v = 21; v <= 24; v++) {
@@ -549,7 +551,8 @@ public final class EdgesOfBoxesTest {
 
     private static void box() {
         T.test("26", "d: a device", () -> T.range("box", 0, 3, Edges::busy, (x, d) -> x.box(d, 0)));
-        T.test("26", "what: 0 number of messages of its outbox, 1 of its inbox, 2 the bit of its outbox, 3 of its inbox", () -> {
+        T.test("26", "what: 0 number of messages of its outbox, 1 of its inbox, 2 the bit of its outbox, 3 of its"
+                + " inbox", () -> {
             T.range("box", 0, 7, Edges::busy, (x, what) -> x.box(0, what));
             T.row("boxes of 0", boxes(Edges.busy(), 0), 1, 2, 1, 0, 0, 1, 21, NONE);
             T.row("boxes of 1", boxes(Edges.busy(), 1), 0, 1, 0, 1, 1, 1, NONE, 33);

@@ -59,8 +59,8 @@ public final class EdgesOfClocksTest {
     }
 
     private static void levelTimes() {
-        T.test("28", "The time becomes the t1 of device 0, plus the time of wire 0, plus turn unless device 0 is the only one of"
-                + " the A side.", () -> {
+        T.test("28", "The time becomes the t1 of device 0, plus the time of wire 0, plus turn unless device 0 is the"
+                + " only one of the A side.", () -> {
             levelTime(Edges.even(1), 4);
             levelTime(Edges.even(2), 9);
             levelTime(Edges.even(3), 14);
@@ -76,8 +76,8 @@ public final class EdgesOfClocksTest {
             levelTime(Check.ring("d0110004;e999;"), 2 + 9);
             levelTime(Check.ring("d0110004;d0210004;e990;"), 4 + 2 * 9);
         });
-        T.test("28", "for each other device i the t1 of device i + 1, plus the time of wire i + 1, plus turn unless device"
-                + " i + 1 is the last one of the A side.", () -> {
+        T.test("28", "for each other device i the t1 of device i + 1, plus the time of wire i + 1, plus turn unless"
+                + " device i + 1 is the last one of the A side.", () -> {
             // the slow clock of device 0 loses 1 at time 26, and the frame is back there at 25 or 26
             delays(at("d0110000;d0210004;e109;", 22), 0, 1);
             delays(at("d0110000;d0210004;e109;", 23), 0, 0);
@@ -161,8 +161,8 @@ public final class EdgesOfClocksTest {
     }
 
     private static void levelOffsets() {
-        T.test("28", "The offset of each device of the A side becomes the own clock of device 0 at its t0, plus the delay of the"
-                + " device, minus the own clock of the device at its own t0.", () -> {
+        T.test("28", "The offset of each device of the A side becomes the own clock of device 0 at its t0, plus the"
+                + " delay of the device, minus the own clock of the device at its own t0.", () -> {
             offsets(Check.ring("d0199994;d0210004;"), 0, 999);
             offsets(Check.ring("d0110004;d0219994;"), 0, -999);
             offsets(Check.ring("d0110004;d0210004;"), 0, 0);
@@ -201,8 +201,8 @@ public final class EdgesOfClocksTest {
     }
 
     private static void steerDeviations() {
-        T.test("29", "let the deviation be the system clock of device 0 at the time at which the frame passes it, plus the delay"
-                + " of the device, minus the system clock of the device", () -> {
+        T.test("29", "let the deviation be the system clock of device 0 at the time at which the frame passes it, plus"
+                + " the delay of the device, minus the system clock of the device", () -> {
             for (int deviation : new int[] {-996, -100, -99, -1, 0, 1, 99, 100, 996}) {
                 T.due("steer(50) of " + deviation, deviating(deviation).steer(50), Math.abs(deviation));
             }
@@ -276,7 +276,8 @@ public final class EdgesOfClocksTest {
 
     private static void steerAnswers() {
         T.test("29", "step: 1 to 99", () -> T.range("steer", 1, 99, Edges::busy, (x, step) -> x.steer(step)));
-        T.test("29", "Returns the greatest absolute value of these deviations (before they are limited by step)", () -> {
+        T.test("29", "Returns the greatest absolute value of these deviations (before they are limited by"
+                + " step)", () -> {
             T.due("10 by 1", deviating(10).steer(1), 10);
             T.due("-10 by 1", deviating(-10).steer(1), 10);
             T.due("0", deviating(0).steer(1), 0);
@@ -386,7 +387,8 @@ public final class EdgesOfClocksTest {
             }
             T.row("sides without", new int[] {Edges.even(8).count(3), Edges.even(8).count(4)}, 8, 0);
         });
-        T.test("32", "5 number of datagrams that came home short, 6 how many different datagrams are remembered", () -> {
+        T.test("32", "5 number of datagrams that came home short, 6 how many different datagrams are"
+                + " remembered", () -> {
             PassingFrames x = Edges.even(4);
             for (int i = 0; i <= 3; i++) {
                 x.gram(i, 7, 0, 0, 1 + i);

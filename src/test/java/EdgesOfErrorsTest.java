@@ -16,7 +16,8 @@ public final class EdgesOfErrorsTest {
     }
 
     private static void codes() {
-        T.test("ERRORS", "BAD (-1): an argument is out of its range, or there is no such device, wire or datagram.", () -> {
+        T.test("ERRORS", "BAD (-1): an argument is out of its range, or there is no such device, wire or"
+                + " datagram.", () -> {
             T.due("BAD", PassingFrames.BAD, -1);
             T.due("an argument", new PassingFrames().lose(10), BAD);
             T.due("a device", new PassingFrames().device(4, 0), BAD);
@@ -75,8 +76,8 @@ public final class EdgesOfErrorsTest {
     }
 
     private static void badBeforeNo() {
-        T.test("ERRORS", "Each method names these values in the order in which they are checked, and the first one that applies"
-                + " is returned", () -> {
+        T.test("ERRORS", "Each method names these values in the order in which they are checked, and the first one that"
+                + " applies is returned", () -> {
             Edges.Make apart = () -> Edges.cut(Edges.prepared(), 0, 4);
             T.refused("cut: a wire that is cut, and 2", BAD, apart, x -> x.cut(0, 2));
             T.refused("cut: a wire that is not cut, and -1", BAD, apart, x -> x.cut(1, -1));
@@ -118,7 +119,7 @@ public final class EdgesOfErrorsTest {
             T.refused("push: on no side, and a loss", NO, apart, x -> x.push(0, 1));
             T.refused("push: message 0, and a loss", BAD, apart, x -> x.push(1, 0));
             T.refused("push: one is pending, and a loss", NO, () -> losing(fullAndPending()), x -> x.push(0, 1));
-            T.refused("push: one is pending, and a full inbox", NO, EdgesOfErrorsTest::fullAndPending, x -> x.push(0, 1));
+            T.refused("push: one is pending, and a full inbox", NO, () -> fullAndPending(), x -> x.push(0, 1));
             T.refused("again: on no side, and a loss", NO, apart, x -> x.again(0));
             T.refused("again: none is pending, and a loss", NO, () -> losing(fullBoxes()), x -> x.again(0));
             T.refused("again: no device, and a loss", BAD, apart, x -> x.again(4));

@@ -34,7 +34,8 @@ public final class EdgesOfFramesTest {
     }
 
     private static void ways() {
-        T.test("FRAMES", "A frame leaves the master at A and passes the devices of the A side in ascending order.", () -> {
+        T.test("FRAMES", "A frame leaves the master at A and passes the devices of the A side in ascending"
+                + " order.", () -> {
             arrivals(1, 0, 0);
             arrivals(2, 0, 0);
             arrivals(8, 0, 0);
@@ -95,8 +96,8 @@ public final class EdgesOfFramesTest {
     }
 
     private static void timesOnA() {
-        T.test("FRAMES", "on the A side, device i at the present time plus the times of the wires 0 to i plus i * pass.",
-                () -> {
+        T.test("FRAMES", "on the A side, device i at the present time plus the times of the wires 0 to i plus i *"
+                + " pass.", () -> {
             passed(Edges.even(1), new int[] {0}, 1);
             passed(Check.ring("d0190004;e999;"), new int[] {0}, 9);
             passed(Check.ring(UNEVEN), new int[] {0, 1, 2, 3}, 2, 12, 23, 38);
@@ -115,8 +116,8 @@ public final class EdgesOfFramesTest {
     }
 
     private static void timesOnB() {
-        T.test("FRAMES", "device f at the present time plus the times of all wires from f + 1 to the last one plus turn for"
-                + " each other device of the B side", () -> {
+        T.test("FRAMES", "device f at the present time plus the times of all wires from f + 1 to the last one plus turn"
+                + " for each other device of the B side", () -> {
             passed(Edges.cut(Check.ring(UNEVEN), 0), new int[] {0}, 20 + 3 * 6);
             passed(Edges.cut(Check.ring(UNEVEN), 1), new int[] {1}, 17 + 2 * 6);
             passed(Edges.cut(Check.ring(UNEVEN), 2), new int[] {2}, 13 + 6);
@@ -144,8 +145,8 @@ public final class EdgesOfFramesTest {
     }
 
     private static void trips() {
-        T.test("FRAMES", "The trip of a frame is, if no wire is cut, the sum of the times of all wires plus pass for each"
-                + " device.", () -> {
+        T.test("FRAMES", "The trip of a frame is, if no wire is cut, the sum of the times of all wires plus pass for"
+                + " each device.", () -> {
             trip(UNEVEN, 22 + 28);
             trip("d0110004;e100;", 2);
             trip("d0190004;e999;", 18 + 9);
@@ -173,8 +174,8 @@ public final class EdgesOfFramesTest {
             trip(UNEVEN, 17, 0, 3);
             trip("d0110004;e999;", 0, 0, 1);
         });
-        T.test("FRAMES", "twice the sum of the times of the wires between its end of the master and its farthest device,"
-                + " plus m * pass, plus (m - 1) * turn.", () -> {
+        T.test("FRAMES", "twice the sum of the times of the wires between its end of the master and its farthest"
+                + " device, plus m * pass, plus (m - 1) * turn.", () -> {
             trip("d0120004;e376;", 2 * 2 + 7, 1);
             trip("d0120004;e376;", 2 * 3 + 7, 0);
             trip("d0120004;d0230004;e476;", 2 * 5 + 2 * 7 + 6, 2);
@@ -279,7 +280,8 @@ public final class EdgesOfFramesTest {
     }
 
     private static void positions() {
-        T.test("FRAMES", "the address, 0 to 7, is how many devices after the first one that edits this frame it is", () -> {
+        T.test("FRAMES", "the address, 0 to 7, is how many devices after the first one that edits this frame it"
+                + " is", () -> {
             PassingFrames x = Edges.even(8);
             for (int address = 0; address <= 7; address++) {
                 T.due("position " + address + " of 8", send(x, 1, address, 0, 1), 1);
@@ -352,8 +354,8 @@ public final class EdgesOfFramesTest {
     }
 
     private static void order() {
-        T.test("FRAMES", "A device edits the datagrams of a frame one after the other, in the order of their numbers.",
-                () -> {
+        T.test("FRAMES", "A device edits the datagrams of a frame one after the other, in the order of their"
+                + " numbers.", () -> {
             for (int i = 0; i < 3; i++) {
                 PassingFrames x = Edges.even(1);
                 x.own(0, 4, 5);
@@ -491,8 +493,8 @@ public final class EdgesOfFramesTest {
                 edited(command, 15, 1, true, true);
             }
         });
-        T.test("FRAMES", "with the bytes of the datagram as they came to it, and the counter increases by 2 (what is read is"
-                + " what was there before).", () -> {
+        T.test("FRAMES", "with the bytes of the datagram as they came to it, and the counter increases by 2 (what is"
+                + " read is what was there before).", () -> {
             PassingFrames x = Edges.even(3);
             x.own(0, 4, 1);
             x.own(1, 4, 2);
@@ -551,8 +553,8 @@ public final class EdgesOfFramesTest {
                 joined(command, 0, 0, 255, 255);
             }
         });
-        T.test("FRAMES", "otherwise a byte is that of the A frame if it differs from the byte that was sent, else that of the"
-                + " B frame.", () -> {
+        T.test("FRAMES", "otherwise a byte is that of the A frame if it differs from the byte that was sent, else that"
+                + " of the B frame.", () -> {
             for (int command : new int[] {1, 3}) {
                 joined(command, 5, 6, 7, 6);
                 joined(command, 5, 5, 7, 7);
@@ -675,8 +677,8 @@ public final class EdgesOfFramesTest {
     }
 
     private static void forgotten() {
-        T.test("FRAMES", "when a seventh different one comes home, the one that has been remembered longest is forgotten.",
-                () -> {
+        T.test("FRAMES", "when a seventh different one comes home, the one that has been remembered longest is"
+                + " forgotten.", () -> {
             PassingFrames x = Edges.even(4);
             for (int n = 1; n <= 6; n++) {
                 send(x, 7, 0, 0, n);

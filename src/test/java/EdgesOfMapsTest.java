@@ -288,7 +288,8 @@ public final class EdgesOfMapsTest {
             T.due("up to byte 16", x.map(0, 1, 0, 8, 9), BAD);
             T.due("a read map from byte 3 on", x.map(0, 0, 0, 1, 3), 0);
         });
-        T.test("FRAMES", "The bytes of the datagram lie over the places from its address on, and its offset is 0.", () -> {
+        T.test("FRAMES", "The bytes of the datagram lie over the places from its address on, and its offset is"
+                + " 0.", () -> {
             for (int address = 0; address <= 24; address++) {
                 PassingFrames x = single(SAFE);
                 x.map(0, 0, 12, 1, 14);
@@ -327,8 +328,8 @@ public final class EdgesOfMapsTest {
     }
 
     private static void whatIsRead() {
-        T.test("FRAMES", "those of its bytes that lie over places of the datagram replace the bytes of the datagram there",
-                () -> {
+        T.test("FRAMES", "those of its bytes that lie over places of the datagram replace the bytes of the datagram"
+                + " there", () -> {
             read(6, 4, "10 11 12 13");
             read(7, 4, "10 11 12 104");
             read(8, 4, "10 11 104 105");
@@ -442,7 +443,7 @@ public final class EdgesOfMapsTest {
             }
         });
         T.test("FRAMES", "counter + 2, each only if there is at least one such byte.", () -> {
-            // places, their number and the counter: the read map lies over places 9 and 10, the write map over 11 and 12
+            // place, number and counter: the read map lies over places 9 and 10, the write map over 11 and 12
             int[][] calls = {{7, 2, 0}, {8, 1, 0}, {8, 2, 1}, {9, 1, 1}, {9, 2, 1}, {9, 3, 3}, {9, 4, 3}, {10, 1, 1},
                 {10, 2, 3}, {11, 1, 2}, {11, 2, 2}, {12, 1, 2}, {12, 2, 2}, {13, 1, 0}, {13, 2, 0}};
             for (int[] c : calls) {

@@ -44,8 +44,8 @@ public final class EdgesOfRingTest {
                 T.due("side of the device behind wire " + w, x.device(w, 5), 2);
             }
         });
-        T.test("THE RING", "and the last wire, whose number is the number of devices, from the last device to the end B of"
-                + " the master.", () -> {
+        T.test("THE RING", "and the last wire, whose number is the number of devices, from the last device to the end B"
+                + " of the master.", () -> {
             for (int n = 1; n <= 8; n++) {
                 PassingFrames x = Edges.even(n);
                 T.due("cut(n + 1, 1) of " + n, x.cut(n + 1, 1), BAD);
@@ -398,7 +398,8 @@ public final class EdgesOfRingTest {
             T.range("cut of one", 0, 1, () -> Edges.even(1), (x, w) -> x.cut(w, 1));
             T.range("cut of eight", 0, 8, () -> Edges.even(8), (x, w) -> x.cut(w, 1));
         });
-        T.test("9", "is: 1 to cut it, 0 to repair it", () -> T.range("cut", 0, 1, Edges::busy, (x, is) -> x.cut(1, is)));
+        T.test("9", "is: 1 to cut it, 0 to repair"
+                + " it", () -> T.range("cut", 0, 1, Edges::busy, (x, is) -> x.cut(1, is)));
         T.test("9", "Cuts or repairs a wire.", () -> {
             for (int w = 0; w <= 4; w++) {
                 PassingFrames x = Edges.cut(new PassingFrames(), w);

@@ -187,8 +187,8 @@ public final class EdgesOfTextTest {
     }
 
     private static void faultPositions() {
-        T.test("THE TEXT", "The fault position of the text is the index (from 0) of the first character of the first item"
-                + " that does not follow these rules", () -> {
+        T.test("THE TEXT", "The fault position of the text is the index (from 0) of the first character of the first"
+                + " item that does not follow these rules", () -> {
             fault("x", 0);
             fault("x111;", 0);
             fault("e111;x", 5);

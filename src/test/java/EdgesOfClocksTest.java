@@ -68,6 +68,8 @@ public final class EdgesOfClocksTest {
             levelTime(Edges.cut(Edges.even(8), 1), 4);
             levelTime(Edges.cut(Edges.even(8), 2), 9);
             levelTime(Edges.cut(Edges.even(8), 8), 39);
+            levelTime(at(Edges.EIGHT, 1), 39);
+            levelTime(at(Edges.EIGHT, 9999), 39);
             levelTime(Check.ring("d0140004;e909;"), 8);
             levelTime(Check.ring("d0140004;d0210004;e909;"), 8 + 2 + 9);
         });
@@ -261,6 +263,7 @@ public final class EdgesOfClocksTest {
         T.test("29", "Then the time increases by the trip.", () -> {
             steerTime(Edges.even(2), 7);
             steerTime(Edges.even(8), 25);
+            steerTime(at(Edges.EIGHT, 9999), 25);
             steerTime(Edges.cut(Edges.even(4), 2), 9);
             // the way of the A side takes 9, that of the B side 29
             steerTime(Edges.cut(Edges.even(8), 2), 29);

@@ -148,6 +148,17 @@ public final class EdgesOfDatagramsTest {
             T.due("gram() of another", x.gram(1, 7, 0, 0, 1), 7);
             T.due("send() with it", x.send(), 16);
         });
+        T.test("16", "Removes the command", () -> {
+            for (int command = 1; command <= 9; command++) {
+                PassingFrames x = Edges.even(1);
+                x.put(0, 0, 9);
+                x.gram(0, command, command >= 4 && command <= 6 ? 1 : 0, 4, 1);
+                x.clear(0);
+                x.gram(1, 7, 0, 0, 1);
+                T.due("send() behind clear() of " + command, x.send(), 1);
+                T.due("nothing is written by " + command, x.memory(0, 4), 0);
+            }
+        });
         T.test("16", "Returns the command that it had", () -> {
             for (int command = 1; command <= 12; command++) {
                 PassingFrames x = new PassingFrames();

@@ -619,6 +619,14 @@ public final class EdgesOfFramesTest {
             unlike(4, 99, 15, 8, new int[][] {{5, 99, 15, 8}, {5, 1, 0, 1}, {4, 98, 15, 8}, {4, 99, 14, 8}});
             unlike(9, 0, 15, 8, new int[][] {{8, 0, 15, 8}, {10, 0, 0, 1}, {9, 0, 0, 8}, {9, 0, 15, 1}});
             unlike(10, 31, 0, 1, new int[][] {{11, 31, 0, 1}, {10, 30, 0, 1}, {10, 30, 0, 2}, {11, 0, 0, 1}});
+            unlike(6, 99, 15, 8, new int[][] {{7, 0, 15, 8}, {7, 0, 0, 8}, {7, 0, 0, 1}, {5, 99, 15, 8}});
+            unlike(3, 0, 0, 1, new int[][] {{2, 7, 0, 1}, {2, 7, 15, 8}, {4, 1, 0, 1}, {3, 1, 0, 1}, {3, 0, 1, 1}});
+        });
+        T.test("FRAMES", "are alike if command, address, offset and n are equal.", () -> {
+            // one of them is greater by 1 and another less by 1
+            unlike(5, 50, 7, 4, new int[][] {{4, 51, 7, 4}, {6, 49, 7, 4}, {4, 50, 8, 4}, {6, 50, 6, 4}, {4, 50, 7, 5},
+                {6, 50, 7, 3}, {5, 49, 8, 4}, {5, 51, 6, 4}, {5, 49, 7, 5}, {5, 51, 7, 3}, {5, 50, 6, 5},
+                {5, 50, 8, 3}});
         });
     }
 
@@ -695,6 +703,17 @@ public final class EdgesOfFramesTest {
             remembers(x, 2, 7);
             x.send();
             remembers(x, 3, 8);
+        });
+        T.test("FRAMES", "the expected counter) for the last 6 different ones", () -> {
+            PassingFrames x = Edges.even(4);
+            int[] counters = {1, 4, 2, 3, 4, 1, 3, 2};
+            for (int n = 1; n <= 8; n++) {
+                x.gram(0, 7, 0, 0, n);
+                sendTo(x, counters[n - 1]);
+            }
+            for (int n = 1; n <= 8; n++) {
+                T.due("expected of length " + n, expectedOf(x, n), n < 3 ? NONE : counters[n - 1]);
+            }
         });
         T.test("FRAMES", "For each datagram that comes home, in the order of their numbers,", () -> {
             PassingFrames x = Edges.even(4);

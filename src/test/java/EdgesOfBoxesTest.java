@@ -561,6 +561,16 @@ public final class EdgesOfBoxesTest {
             T.due("a full outbox", x.box(0, 0), 4);
             T.due("a full inbox", pushed(4).box(0, 1), 4);
         });
+        T.test("26", "4 the master's bit for the outbox, 5 for the inbox", () -> {
+            PassingFrames x = telling(2);
+            x.fetch(0);
+            T.row("bits after a fetch()", new int[] {x.box(0, 2), x.box(0, 3), x.box(0, 4), x.box(0, 5)}, 1, 0, 0, 1);
+            x.push(0, 5);
+            T.row("bits after a push()", new int[] {x.box(0, 2), x.box(0, 3), x.box(0, 4), x.box(0, 5)}, 1, 1, 0, 0);
+            x.fetch(0);
+            x.push(0, 5);
+            T.row("bits after two each", new int[] {x.box(0, 2), x.box(0, 3), x.box(0, 4), x.box(0, 5)}, 0, 0, 1, 1);
+        });
         T.test("26", "6 its last message (NONE if there is none)", () -> {
             T.due("none", telling(1).box(0, 6), NONE);
             for (int v : new int[] {1, 255}) {

@@ -87,6 +87,26 @@ public final class EdgesOfClocksTest {
             delays(at("d0110004;d0210008;d0310004;e109;", 20), 0, 1, 2);
             delays(at("d0110004;d0210008;d0310004;e109;", 21), 0, 0, 1);
         });
+        T.test("28", "let t0 be the time at which the frame passes it (as in FRAMES), and t1 the time at which it comes"
+                + " back", () -> {
+            // the clock of device 1 gains 1 at time 25; the frame passes it 4 after the begin and is back 2 later
+            delays(at("d0110004;d0210008;", 18), 0, 3);
+            delays(at("d0110004;d0210008;", 19), 0, 2);
+            delays(at("d0110004;d0210008;", 20), 0, 2);
+            delays(at("d0110004;d0210008;", 21), 0, 3);
+            // the clock of device 0 loses 1 at time 26; the frame passes it 1 after the begin and is back 6 later
+            delays(at("d0110000;d0210004;", 18), 0, 3);
+            delays(at("d0110000;d0210004;", 19), 0, 2);
+            delays(at("d0110000;d0210004;", 24), 0, 2);
+            delays(at("d0110000;d0210004;", 25), 0, 3);
+        });
+        T.test("28", "that passes the A side and is turned at its last device.", () -> {
+            for (int n = 1; n <= 8; n++) {
+                PassingFrames x = Edges.cut(Edges.even(8), n);
+                T.due("level() of " + n + " of eight", x.level(), Edges.even(n).level());
+                T.due("time of " + n + " of eight", x.count(1), 5 * n - 1);
+            }
+        });
         T.test("28", "by a frame (which is never lost and edits nothing)", () -> {
             PassingFrames x = Edges.even(4);
             x.put(0, 0, 9);
@@ -137,6 +157,12 @@ public final class EdgesOfClocksTest {
     }
 
     private static void levelRounds() {
+        T.test("28", "where w is the gap of device i - 1 minus the gap of device i minus pass", () -> {
+            delays(Check.ring("d0110004;d0210004;e100;"), 0, 1);
+            delays(Check.ring("d0110004;d0210004;e190;"), 0, 9 + 1);
+            delays(Check.ring("d0110004;d0290004;e100;"), 0, 9);
+            delays(Check.ring("d0110004;d0290004;e190;"), 0, 9 + 9);
+        });
         T.test("28", "plus max(0, w) / 2 (rounded down)", () -> {
             // w is 2 and what the clock of device 0 gains and that of device 1 loses meanwhile
             delays(at("d0110008;d0210004;e100;", 23), 0, 1);
@@ -208,6 +234,14 @@ public final class EdgesOfClocksTest {
             for (int deviation : new int[] {-996, -100, -99, -1, 0, 1, 99, 100, 996}) {
                 T.due("steer(50) of " + deviation, deviating(deviation).steer(50), Math.abs(deviation));
             }
+        });
+        T.test("29", "at the time at which the frame passes it", () -> {
+            // the clock of device 1 gains 1 at time 25 and the frame passes it 4 after the present time
+            T.due("device 1 before its step", at("d0110004;d0210008;", 20).steer(9), 3);
+            T.due("device 1 at its step", at("d0110004;d0210008;", 21).steer(9), 4);
+            // the clock of device 0 loses 1 at time 26 and the frame passes it 1 after the present time
+            T.due("device 0 before its step", at("d0110000;d0210004;", 24).steer(9), 4);
+            T.due("device 0 at its step", at("d0110000;d0210004;", 25).steer(9), 5);
         });
         T.test("29", "plus the delay of the device", () -> {
             PassingFrames x = Edges.even(8);

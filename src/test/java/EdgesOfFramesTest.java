@@ -11,6 +11,7 @@ public final class EdgesOfFramesTest {
         trips();
         tripTakesTime();
         datagram();
+        commands();
         positions();
         numbersAndAll();
         order();
@@ -276,6 +277,25 @@ public final class EdgesOfFramesTest {
             T.due("counter", x.home(0, -1), 4);
             Edges.cut(x, 0, 4);
             T.due("send() to nobody", x.send(), 0);
+        });
+    }
+
+    private static void commands() {
+        T.test("FRAMES", "Commands are 1 READ, 2 WRITE, 3 BOTH for the device at a position", () -> {
+            edited(1, 4, 2, true, false);
+            edited(2, 4, 2, false, true);
+            edited(3, 4, 2, true, true);
+            T.due("command 0", new PassingFrames().gram(0, 0, 0, 4, 2), -1);
+        });
+        T.test("FRAMES", "4 READ, 5 WRITE, 6 BOTH for the device with a number", () -> {
+            edited(4, 4, 2, true, false);
+            edited(5, 4, 2, false, true);
+            edited(6, 4, 2, true, true);
+        });
+        T.test("FRAMES", "7 READ, 8 WRITE, 9 BOTH for all devices", () -> {
+            edited(7, 4, 2, true, false);
+            edited(8, 4, 2, false, true);
+            edited(9, 4, 2, true, true);
         });
     }
 
